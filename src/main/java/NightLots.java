@@ -35,11 +35,11 @@ public final class NightLots {
     private final Deal deal = new Deal();
 
     public NightLots() {
-        for (int i = 0; i < FIRST_ITEMS.length() && i < MOST_LETTERS; i++) {
-            text[i] = FIRST_ITEMS.charAt(i);
+        for (int i = 0; i < FIRST_ITEMS.length(); i++) {
+            write(FIRST_ITEMS.charAt(i));
         }
-        plan.read(text, FIRST_ITEMS.length());
-        now.settle(plan);
+        lay();
+        wipe();
     }
 
     // ---- valleys
@@ -158,7 +158,7 @@ public final class NightLots {
             return NO;
         }
         undoable.put(now);
-        now.burdenOf[k] = b;
+        now.setBurden(k, b);
         return was;
     }
 
@@ -566,8 +566,9 @@ public final class NightLots {
             int most = 0;
             int which = NOWHERE;
             for (int k = 0; k < houses; k++) {
-                if (timesHad(h, k) > most) {
-                    most = timesHad(h, k);
+                int times = hadBy[h * MOST_HOUSES + k];
+                if (times > most) {
+                    most = times;
                     which = k;
                 }
             }
@@ -586,6 +587,9 @@ public final class NightLots {
         /** One house's night, the lot going round behind it: whether the hour is kept. */
         boolean seeThrough(int h) {
             int k = hourOf[h];
+            if (!isHour(k)) {
+                return true;
+            }
             boolean kept = wouldKeep(h, k, tiredOf[h]);
             if (kept) {
                 tiredOf[h] = Math.min(tiredOf[h] + 2, MOST_TIRED);
@@ -619,6 +623,12 @@ public final class NightLots {
 
         void giveRest(int h) {
             tiredOf[h] = Math.max(tiredOf[h] - 5, 0);
+        }
+
+        void setBurden(int k, int burden) {
+            if (isHour(k)) {
+                burdenOf[k] = burden;
+            }
         }
 
         int tiredTogether() {
@@ -662,7 +672,7 @@ public final class NightLots {
             switch (draw / 64 % 4) {
                 case 0: trade(one, other); break;
                 case 1: giveRest(one); break;
-                case 2: burdenOf[hourOf[one]] = draw / 256 % (MOST_BURDEN + 1); break;
+                case 2: setBurden(hourOf[one], draw / 256 % (MOST_BURDEN + 1)); break;
                 default: break;
             }
         }
@@ -753,8 +763,8 @@ public final class NightLots {
     /** The ways to deal out the hours for the night that comes. */
     private static final class Deal {
         // More than all hours kept can weigh together, so that one gap less is always the better way.
-        static final int GAP_PRICE = 1000;
-        static final int WORST = GAP_PRICE * (MOST_HOUSES + 1);
+        private static final int GAP_PRICE = 1000;
+        private static final int WORST = GAP_PRICE * (MOST_HOUSES + 1);
 
         final int[] price = new int[MOST_HOUSES * MOST_HOUSES];
         final int[] leastBehind = new int[1 << MOST_HOUSES];

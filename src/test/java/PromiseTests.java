@@ -67,13 +67,6 @@ public final class PromiseTests {
         return lots;
     }
 
-    private static NightLots passed(NightLots lots, int nights) {
-        for (int i = 0; i < nights; i++) {
-            lots.pass(1);
-        }
-        return lots;
-    }
-
     private static void constants() {
         due("BAD", NightLots.BAD, -1);
         due("NO", NightLots.NO, -2);
@@ -833,6 +826,9 @@ public final class PromiseTests {
         due("likely(1, 9, 1)", weak.likely(1, 9, 1), 10);
         due("likely(2, 1, 0)", weak.likely(2, 1, 0), 19);
         due("likely(2, 1, 1)", weak.likely(2, 1, 1), 30);
+        NightLots even = laid("n1;n1;h0,1,0;h0,1,0;");
+        due("likely(0, 1, 0), 18 of 20", even.likely(0, 1, 0), 9);
+        due("likely(0, 1, 1), 18 of 20", even.likely(0, 1, 1), 10);
         NightLots strong = laid("n0;n0;h0,40,0;h0,39,0;");
         strong.pass(19);
         strong.pass(1);
@@ -867,35 +863,47 @@ public final class PromiseTests {
         due("winter(0, 2, 0)", lots.winter(0, 2, 0), 2);
         due("winter(0, 2, 1)", lots.winter(0, 2, 1), 16);
         due("winter(0, 2, 2)", lots.winter(0, 2, 2), 2);
-        NightLots tested = passed(new NightLots(), 1);
-        tested.keep();
-        int gapsThen = tested.count(2);
-        int due = steppedWinter(tested, 9999, 40);
-        tested.back();
-        due("winter(9999, 40, 0), stepped", tested.winter(9999, 40, 0), due - gapsThen);
-        due("count(1) stays", tested.count(1), 1);
-        due("count(2) stays", tested.count(2), gapsThen);
-        due("hour(0, 0) stays", tested.hour(0, 0), 4);
+        int[][] winters = {{0, 60}, {1, 60}, {7, 33}, {5000, 7}, {9998, 60}, {9999, 60}, {9999, 1}};
+        for (int[] z : winters) {
+            checkWinter(z[0], z[1]);
+        }
     }
 
-    /** The same winter, done by the calls that act; how many gaps there are so far then. */
-    private static int steppedWinter(NightLots lots, long z, int nights) {
-        for (long night = 0; night < nights; night++) {
-            long x = 7919 * z + 6151 * night + 1;
-            int draw = (int) (x * x % 65521) / 2;
-            int one = draw % 5;
-            int other = draw / 8 % 5;
-            int deed = draw / 64 % 4;
-            if (deed == 0) {
-                lots.swap(one, other);
-            } else if (deed == 1) {
-                lots.rest(one);
-            } else if (deed == 2) {
-                lots.burden(lots.house(one, 4), draw / 256 % 21);
-            }
-            lots.pass(1);
+    /** The same winter, done by the calls that act, with another way of working out what is drawn. */
+    private static void checkWinter(int z, int nights) {
+        NightLots asked = new NightLots();
+        NightLots acted = new NightLots();
+        asked.pass(1);
+        acted.pass(1);
+        for (int night = 0; night < nights; night++) {
+            act(acted, z, night);
+            acted.pass(1);
         }
-        return lots.count(2);
+        String winter = "winter(" + z + ", " + nights + ", ";
+        due(winter + "0)", asked.winter(z, nights, 0), acted.count(2) - 1);
+        due(winter + "1)", asked.winter(z, nights, 1), acted.count(3));
+        due(winter + "2)", asked.winter(z, nights, 2), acted.house(0, 4));
+        int[] counts = {5, 1, 1, 8, 0, 1, 0, 0};
+        for (int what = 0; what < counts.length; what++) {
+            due("count(" + what + ") stays", asked.count(what), counts[what]);
+        }
+        due("hour(0, 0) stays", asked.hour(0, 0), 4);
+        due("hour(0, 1) stays", asked.hour(0, 1), 4);
+    }
+
+    private static void act(NightLots lots, int z, int night) {
+        long rest = (7919L * z + 6151L * night + 1) % 65521;
+        int draw = (int) (rest * rest % 65521) >> 1;
+        int one = draw % 5;
+        int other = (draw >> 3) % 5;
+        int deed = (draw >> 6) % 4;
+        if (deed == 0) {
+            lots.swap(one, other);
+        } else if (deed == 1) {
+            lots.rest(one);
+        } else if (deed == 2) {
+            lots.burden(lots.house(one, 4), (draw >> 8) % 21);
+        }
     }
 
     private static void keep() {
