@@ -661,6 +661,8 @@ public final class PromiseTests {
         NightLots alike = laid("n1;n1;h0,0,7;h0,0,7;");
         due("far(0), alike", alike.far(0), 0);
         due("far(1), alike", alike.far(1), 0);
+        due("far(1), all at 0", laid("n1;n1;h0,0,0;h0,0,0;").far(1), 0);
+        due("far(1), all at 99", laid("n1;n1;h0,0,99;h0,0,99;").far(1), 0);
     }
 
     private static void lamps() {
