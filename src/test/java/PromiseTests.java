@@ -1,81 +1,17 @@
 /** For each promise of the document: ordinary inputs, the edges that it names, and wrong inputs, answers worked out by hand. */
-public final class PromiseTests {
-    private static final int BAD = -1, NO = -2, FULL = -3, NONE = -4;
-    private static final int[] FAR_OFF = {Integer.MIN_VALUE, Integer.MIN_VALUE + 1, -1000, 1000, Integer.MAX_VALUE - 1, Integer.MAX_VALUE};
-    private static int wrong = 0;
-    private static int promise = 0;
-
+public final class PromiseTests extends Checks {
     public static void main(String[] args) {
-        constants();
-        newObject();
-        write();
-        wipe();
-        fault();
-        lay();
-        house();
-        hour();
-        heavy();
-        had();
-        pass();
-        swap();
-        rest();
-        burden();
-        undo();
-        behind();
-        gaps();
-        first();
-        even();
-        swaps();
-        far();
-        lamps();
-        seen();
-        forget();
-        kinds();
-        strengths();
-        likely();
-        winter();
-        keep();
-        back();
-        count();
-        System.out.println(wrong == 0 ? "promises: all answers are as due" : "promises: " + wrong + " answers are not as due");
-        if (wrong != 0) {
-            System.exit(1);
-        }
+        runAll(PromiseTests.class);
     }
 
-    private static void due(String call, int got, int want) {
-        if (got != want) {
-            wrong++;
-            System.out.println("promise " + promise + ": " + call + " answered " + got + ", due is " + want);
-        }
-    }
-
-    private static void write(NightLots lots, String text) {
-        lots.wipe();
-        for (char letter : text.toCharArray()) {
-            lots.write(letter);
-        }
-    }
-
-    private static NightLots laid(String text) {
-        NightLots lots = new NightLots();
-        write(lots, text);
-        if (lots.lay() < 0) {
-            wrong++;
-            System.out.println("promise " + promise + ": not laid: " + text);
-        }
-        return lots;
-    }
-
-    private static void constants() {
+    static void promise01_theConstants() {
         due("BAD", NightLots.BAD, -1);
         due("NO", NightLots.NO, -2);
         due("FULL", NightLots.FULL, -3);
         due("NONE", NightLots.NONE, -4);
     }
 
-    private static void newObject() {
-        promise = 1;
+    static void promise01_newObject() {
         NightLots lots = new NightLots();
         int[][] houses = {{0, 14, 10}, {1, 9, 22}, {2, 20, 35}, {3, 12, 41}, {0, 8, 60}};
         int[] burdens = {4, 7, 12, 9, 5};
@@ -105,8 +41,7 @@ public final class PromiseTests {
         due("forget()", lots.forget(), 0);
     }
 
-    private static void write() {
-        promise = 2;
+    static void promise02_write() {
         NightLots lots = new NightLots();
         due("write(31)", lots.write(31), BAD);
         due("write(127)", lots.write(127), BAD);
@@ -123,8 +58,7 @@ public final class PromiseTests {
         due("count(7)", lots.count(7), 200);
     }
 
-    private static void wipe() {
-        promise = 3;
+    static void promise03_wipe() {
         NightLots lots = new NightLots();
         due("wipe()", lots.wipe(), 0);
         write(lots, "n4;x");
@@ -140,54 +74,45 @@ public final class PromiseTests {
         due("write('n')", lots.write('n'), 1);
     }
 
-    private static void faultOf(String text, int want) {
-        NightLots lots = new NightLots();
-        write(lots, text);
-        due("fault() of " + text, lots.fault(), want);
-        due("fault() again of " + text, lots.fault(), want);
-    }
-
-    private static void fault() {
-        promise = 4;
+    static void promise04_fault() {
         String seven = "n1;n2;n3;n4;n5;n6;n7;";
-        faultOf("", NONE);
-        faultOf("n4;", NONE);
-        faultOf("n0;", NONE);
-        faultOf("n00;", NONE);
-        faultOf("n20;", NONE);
-        faultOf("n05;n4;", NONE);
-        faultOf("n1;h0,0,0;", NONE);
-        faultOf("n1;h3,40,99;", NONE);
-        faultOf("n1;h03,09,00;", NONE);
-        faultOf("n1;h0,0,0;n1;h0,0,0;", NONE);
-        faultOf(seven, NONE);
-        faultOf("n1;n1;h0,0,0;", NONE);
-        faultOf(seven + "n8;", 21);
-        faultOf("n21;", 0);
-        faultOf("n1;n99;", 3);
-        faultOf("n1;h4,0,0;", 3);
-        faultOf("n1;h0,41,0;", 3);
-        faultOf("n1;h0,0,100;", 3);
-        faultOf("h0,0,0;n1;", 0);
-        faultOf("n1;h0,0,0;h0,0,0;n1;", 10);
+        dueFault("", NONE);
+        dueFault("n4;", NONE);
+        dueFault("n0;", NONE);
+        dueFault("n00;", NONE);
+        dueFault("n20;", NONE);
+        dueFault("n05;n4;", NONE);
+        dueFault("n1;h0,0,0;", NONE);
+        dueFault("n1;h3,40,99;", NONE);
+        dueFault("n1;h03,09,00;", NONE);
+        dueFault("n1;h0,0,0;n1;h0,0,0;", NONE);
+        dueFault(seven, NONE);
+        dueFault("n1;n1;h0,0,0;", NONE);
+        dueFault(seven + "n8;", 21);
+        dueFault("n21;", 0);
+        dueFault("n1;n99;", 3);
+        dueFault("n1;h4,0,0;", 3);
+        dueFault("n1;h0,41,0;", 3);
+        dueFault("n1;h0,0,100;", 3);
+        dueFault("h0,0,0;n1;", 0);
+        dueFault("n1;h0,0,0;h0,0,0;n1;", 10);
         String[] notSo = {"n", "n;", "n4", "n4,", "n4,5;", "n004;", "n-4;", "n 4;", "n4 ;", "N4;", "m4;", ";", ",", "4;", " n4;",
             "n4:", "n4/", "n4n;"};
         for (String text : notSo) {
-            faultOf(text, 0);
-            faultOf("n2;" + text, 3);
+            dueFault(text, 0);
+            dueFault("n2;" + text, 3);
         }
         String[] noHouse = {"h", "h;", "h0;", "h0,0;", "h0,0,0", "h0,0,0,", "h0,0,0,0;", "h0;0;0;", "h,0,0;", "h0,,0;", "h0,0,;",
             "h000,0,0;", "h0,000,0;", "h0,0,000;", "H0,0,0;", "h0.0.0;"};
         for (String text : noHouse) {
-            faultOf("n2;" + text, 3);
+            dueFault("n2;" + text, 3);
         }
-        faultOf("n4;n21;x", 3);
-        faultOf("n4; n4;", 3);
-        faultOf("n4;;n4;", 3);
+        dueFault("n4;n21;x", 3);
+        dueFault("n4; n4;", 3);
+        dueFault("n4;;n4;", 3);
     }
 
-    private static void lay() {
-        promise = 5;
+    static void promise05_lay() {
         NightLots lots = new NightLots();
         String[] refused = {"", "n1;", "n1;h0,0,0;", "n1;n1;", "n1;n1;h0,0,0;", "n1;n1;h0,0,0;h0,0,0;h0,0,0;",
             "n1;n1;h0,0,0;h0,0,0;x", "n1;n1;h0,0,0;h0,0,0"};
@@ -232,8 +157,7 @@ public final class PromiseTests {
         due("house(6, 2)", lots.house(6, 2), 7);
     }
 
-    private static void house() {
-        promise = 6;
+    static void promise06_house() {
         NightLots lots = new NightLots();
         due("house(-1, 0)", lots.house(-1, 0), BAD);
         due("house(5, 0)", lots.house(5, 0), BAD);
@@ -252,8 +176,7 @@ public final class PromiseTests {
         }
     }
 
-    private static void hour() {
-        promise = 7;
+    static void promise07_hour() {
         NightLots lots = new NightLots();
         due("hour(-1, 0)", lots.hour(-1, 0), BAD);
         due("hour(5, 1)", lots.hour(5, 1), BAD);
@@ -274,8 +197,7 @@ public final class PromiseTests {
         due("hour(2, 0)", lots.hour(2, 0), 12);
     }
 
-    private static void heavy() {
-        promise = 8;
+    static void promise08_heavy() {
         NightLots lots = laid("n7;n2;n9;n3;h0,40,0;h1,40,0;h2,40,0;h3,40,0;");
         int[][] heavy = {{7, 2, 9, 3}, {14, 4, 18, 6}, {7, 2, 9, 3}, {4, 2, 9, 0}};
         for (int h = 0; h < 4; h++) {
@@ -310,8 +232,7 @@ public final class PromiseTests {
         }
     }
 
-    private static void had() {
-        promise = 9;
+    static void promise09_had() {
         NightLots lots = laid("n0;n20;n5;h0,5,0;h0,5,0;h0,5,0;");
         lots.pass(4);
         int[][] had = {{2, 1, 1}, {1, 2, 1}, {1, 1, 2}};
@@ -337,8 +258,7 @@ public final class PromiseTests {
         }
     }
 
-    private static void pass() {
-        promise = 10;
+    static void promise10_pass() {
         NightLots lots = new NightLots();
         due("pass(0)", lots.pass(0), BAD);
         due("pass(21)", lots.pass(21), BAD);
@@ -382,8 +302,7 @@ public final class PromiseTests {
         due("count(1)", late.count(1), 980);
     }
 
-    private static void swap() {
-        promise = 11;
+    static void promise11_swap() {
         NightLots lots = new NightLots();
         due("swap(0, 0)", lots.swap(0, 0), BAD);
         due("swap(-1, 0)", lots.swap(-1, 0), BAD);
@@ -405,8 +324,7 @@ public final class PromiseTests {
         due("swap(0, 4)", lots.swap(0, 4), 0);
     }
 
-    private static void rest() {
-        promise = 12;
+    static void promise12_rest() {
         NightLots lots = new NightLots();
         due("rest(0)", lots.rest(0), NO);
         due("rest(-1)", lots.rest(-1), BAD);
@@ -429,8 +347,7 @@ public final class PromiseTests {
         due("house(1, 3)", strong.house(1, 3), 6);
     }
 
-    private static void burden() {
-        promise = 13;
+    static void promise13_burden() {
         NightLots lots = new NightLots();
         due("burden(-1, 0)", lots.burden(-1, 0), BAD);
         due("burden(5, 0)", lots.burden(5, 0), BAD);
@@ -453,8 +370,7 @@ public final class PromiseTests {
         due("the burden stays with the hour", lots.hour(0, 0), 20);
     }
 
-    private static void undo() {
-        promise = 14;
+    static void promise14_undo() {
         NightLots lots = new NightLots();
         due("undo()", lots.undo(), NO);
         lots.swap(0, 0);
@@ -503,8 +419,7 @@ public final class PromiseTests {
         due("count(7) stays", lots.count(7), 1);
     }
 
-    private static void behind() {
-        promise = 15;
+    static void promise15_behind() {
         NightLots lots = new NightLots();
         due("behind(-1, 0, 0)", lots.behind(-1, 0, 0), BAD);
         due("behind(41, 0, 0)", lots.behind(41, 0, 0), BAD);
@@ -535,8 +450,7 @@ public final class PromiseTests {
         due("behind(39, 0, 1)", strong.behind(39, 0, 1), 1);
     }
 
-    private static void gaps() {
-        promise = 16;
+    static void promise16_gaps() {
         NightLots lots = new NightLots();
         due("gaps()", lots.gaps(), 2);
         lots.swap(0, 1);
@@ -550,8 +464,7 @@ public final class PromiseTests {
         due("gaps() of the next night", seven.gaps(), 127);
     }
 
-    private static void first() {
-        promise = 17;
+    static void promise17_first() {
         NightLots lots = new NightLots();
         int[] nights = {3, 1, 6, 4, 3};
         for (int h = 0; h < 5; h++) {
@@ -577,8 +490,7 @@ public final class PromiseTests {
         due("count(1)", never.count(1), 20);
     }
 
-    private static void even() {
-        promise = 18;
+    static void promise18_even() {
         NightLots lots = new NightLots();
         due("even(-1)", lots.even(-1), 0);
         int[] hours = {1, 0, 2, 3, 4};
@@ -618,8 +530,7 @@ public final class PromiseTests {
         due("even(0)", none.even(0), 0);
     }
 
-    private static void swaps() {
-        promise = 19;
+    static void promise19_swaps() {
         NightLots lots = new NightLots();
         due("swaps()", lots.swaps(), 1);
         lots.swap(0, 1);
@@ -637,8 +548,7 @@ public final class PromiseTests {
         due("count(5)", threes.count(5), 0);
     }
 
-    private static void far() {
-        promise = 20;
+    static void promise20_far() {
         NightLots lots = new NightLots();
         due("far(0)", lots.far(0), 50);
         due("far(1)", lots.far(1), 50);
@@ -665,8 +575,7 @@ public final class PromiseTests {
         due("far(1), all at 99", laid("n1;n1;h0,0,99;h0,0,99;").far(1), 0);
     }
 
-    private static void lamps() {
-        promise = 21;
+    static void promise21_lamps() {
         NightLots lots = new NightLots();
         due("lamps(0, 0)", lots.lamps(0, 0), BAD);
         due("lamps(41, 0)", lots.lamps(41, 0), BAD);
@@ -695,8 +604,7 @@ public final class PromiseTests {
         due("lamps(40, 1)", never.lamps(40, 1), 0);
     }
 
-    private static void seen() {
-        promise = 22;
+    static void promise22_seen() {
         NightLots lots = new NightLots();
         due("seen(-1, 0, 0)", lots.seen(-1, 0, 0), BAD);
         due("seen(21, 0, 0)", lots.seen(21, 0, 0), BAD);
@@ -719,8 +627,7 @@ public final class PromiseTests {
         due("count(5)", lots.count(5), 0);
     }
 
-    private static void forget() {
-        promise = 23;
+    static void promise23_forget() {
         NightLots lots = new NightLots();
         due("forget()", lots.forget(), 0);
         lots.seen(0, 0, 1);
@@ -733,8 +640,7 @@ public final class PromiseTests {
         due("seen(0, 0, 1)", lots.seen(0, 0, 1), 1);
     }
 
-    private static void kinds() {
-        promise = 24;
+    static void promise24_kinds() {
         NightLots lots = new NightLots();
         due("kinds(-1)", lots.kinds(-1), BAD);
         due("kinds(5)", lots.kinds(5), BAD);
@@ -768,8 +674,7 @@ public final class PromiseTests {
         due("kinds(1)", two.kinds(1), 3);
     }
 
-    private static void strengths() {
-        promise = 25;
+    static void promise25_strengths() {
         NightLots lots = new NightLots();
         due("strengths(-1, 0)", lots.strengths(-1, 0), BAD);
         due("strengths(5, 0)", lots.strengths(5, 0), BAD);
@@ -798,8 +703,7 @@ public final class PromiseTests {
         due("strengths(0, 1)", lots.strengths(0, 1), 9);
     }
 
-    private static void likely() {
-        promise = 26;
+    static void promise26_likely() {
         NightLots lots = new NightLots();
         due("likely(-1, 0, 0)", lots.likely(-1, 0, 0), BAD);
         due("likely(5, 0, 0)", lots.likely(5, 0, 0), BAD);
@@ -840,8 +744,7 @@ public final class PromiseTests {
         due("house(0, 3) stays", strong.house(0, 3), 40);
     }
 
-    private static void winter() {
-        promise = 27;
+    static void promise27_winter() {
         NightLots lots = new NightLots();
         due("winter(-1, 1, 0)", lots.winter(-1, 1, 0), BAD);
         due("winter(10000, 1, 0)", lots.winter(10000, 1, 0), BAD);
@@ -908,8 +811,7 @@ public final class PromiseTests {
         }
     }
 
-    private static void keep() {
-        promise = 28;
+    static void promise28_keep() {
         NightLots lots = new NightLots();
         due("keep()", lots.keep(), 1);
         due("keep()", lots.keep(), 2);
@@ -924,8 +826,7 @@ public final class PromiseTests {
         due("count(1)", lots.count(1), 1);
     }
 
-    private static void back() {
-        promise = 29;
+    static void promise29_back() {
         NightLots lots = new NightLots();
         due("back()", lots.back(), NO);
         lots.keep();
@@ -955,8 +856,7 @@ public final class PromiseTests {
         due("back()", lots.back(), NO);
     }
 
-    private static void count() {
-        promise = 30;
+    static void promise30_count() {
         NightLots lots = new NightLots();
         due("count(-1)", lots.count(-1), BAD);
         due("count(8)", lots.count(8), BAD);
