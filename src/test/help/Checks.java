@@ -109,6 +109,14 @@ abstract class Checks {
         return lots;
     }
 
+    static NightLots two() {
+        return atNight(3);
+    }
+
+    static NightLots seven() {
+        return laid("n1;n2;n3;n4;n5;n6;n7;" + "h0,9,1;".repeat(7));
+    }
+
     /** House 0, of two, of this kind and strength, tired by so much: it has kept hours of burden 0 until then. */
     static NightLots tiredBy(int tired, int kind, int strength) {
         NightLots lots = laid("n0;n0;h" + kind + "," + strength + ",0;h0,40,0;");
@@ -155,8 +163,10 @@ abstract class Checks {
     /** What the calls tell then is what they tell without it: at once, undone step by step, and taken back. */
     static void changesNothing(Supplier<NightLots> valley, String call, Call asked) {
         same("behind " + call, told(behind(valley, asked)), told(valley.get()));
-        same("undone behind " + call, undone(behind(valley, asked)), undone(valley.get()));
-        same("taken back behind " + call, takenBack(behind(valley, asked)), takenBack(valley.get()));
+        same("undone behind " + call, stepByStep(behind(valley, asked), NightLots::undo),
+                stepByStep(valley.get(), NightLots::undo));
+        same("taken back behind " + call, stepByStep(behind(valley, asked), NightLots::back),
+                stepByStep(valley.get(), NightLots::back));
     }
 
     private static NightLots behind(Supplier<NightLots> valley, Call asked) {
@@ -244,23 +254,13 @@ abstract class Checks {
         return told;
     }
 
-    private static List<String> undone(NightLots lots) {
+    /** What is answered and told, the call being made until it is refused: what can be undone, what is kept aside. */
+    private static List<String> stepByStep(NightLots lots, Call call) {
         List<String> told = new ArrayList<>();
         int answer = 0;
         for (int i = 0; i <= 8 && answer >= 0; i++) {
-            answer = lots.undo();
-            told.add("undo() " + answer);
-            told.addAll(toldOfActs(lots));
-        }
-        return told;
-    }
-
-    private static List<String> takenBack(NightLots lots) {
-        List<String> told = new ArrayList<>();
-        int answer = 0;
-        for (int i = 0; i <= 2 && answer >= 0; i++) {
-            answer = lots.back();
-            told.add("back() " + answer);
+            answer = call.of(lots);
+            told.add("step " + i + " " + answer);
             told.addAll(toldOfActs(lots));
         }
         return told;

@@ -215,8 +215,8 @@ public final class ActEdges extends Checks {
             refused(Checks::busy, "swap(2, " + h + ")", BAD, lots -> lots.swap(2, h));
             refused(Checks::busy, "swap(" + h + ", " + h + ")", BAD, lots -> lots.swap(h, h));
         }
-        refused(() -> atNight(3), "swap(1, 2)", BAD, lots -> lots.swap(1, 2));
-        refused(() -> atNight(3), "swap(2, 0)", BAD, lots -> lots.swap(2, 0));
+        refused(Checks::two, "swap(1, 2)", BAD, lots -> lots.swap(1, 2));
+        refused(Checks::two, "swap(2, 0)", BAD, lots -> lots.swap(2, 0));
         NightLots seven = laid(SEVEN + "h0,1,1;".repeat(7));
         due("swap(0, 6)", seven.swap(0, 6), 6);
         due("swap(6, 5)", seven.swap(6, 5), 5);
@@ -268,7 +268,7 @@ public final class ActEdges extends Checks {
 
     static void promise12_housesAreSuchAsThereAre() {
         bounds(Checks::busy, "rest(?)", 0, 2, NightLots::rest);
-        bounds(() -> atNight(3), "rest(?)", 0, 1, NightLots::rest);
+        bounds(Checks::two, "rest(?)", 0, 1, NightLots::rest);
         bounds(() -> {
             NightLots lots = laid(SEVEN + "h0,40,1;".repeat(7));
             lots.pass(1);
@@ -321,8 +321,8 @@ public final class ActEdges extends Checks {
 
     static void promise13_hoursAreSuchAsThereAre() {
         bounds(Checks::busy, "burden(?, 20)", 0, 2, (lots, k) -> lots.burden(k, 20));
-        bounds(() -> atNight(3), "burden(?, 1)", 0, 1, (lots, k) -> lots.burden(k, 1));
-        bounds(() -> laid(SEVEN + "h0,1,1;".repeat(7)), "burden(?, 0)", 0, 6, (lots, k) -> lots.burden(k, 0));
+        bounds(Checks::two, "burden(?, 1)", 0, 1, (lots, k) -> lots.burden(k, 1));
+        bounds(Checks::seven, "burden(?, 0)", 0, 6, (lots, k) -> lots.burden(k, 0));
     }
 
     static void promise13_burdenIsFrom0To20() {

@@ -6,20 +6,12 @@ public final class ChanceEdges extends Checks {
         runAll(ChanceEdges.class);
     }
 
-    private static NightLots seven() {
-        return laid("n1;n2;n3;n4;n5;n6;n7;" + "h0,9,1;".repeat(7));
-    }
-
-    private static NightLots two() {
-        return atNight(3);
-    }
-
     // ---- promise 26: likely
 
     static void promise26_housesAreSuchAsThereAre() {
         bounds(Checks::busy, "likely(?, 5, 0)", 0, 2, (lots, h) -> lots.likely(h, 5, 0));
-        bounds(ChanceEdges::two, "likely(?, 9, 1)", 0, 1, (lots, h) -> lots.likely(h, 9, 1));
-        bounds(ChanceEdges::seven, "likely(?, 0, 1)", 0, 6, (lots, h) -> lots.likely(h, 0, 1));
+        bounds(Checks::two, "likely(?, 9, 1)", 0, 1, (lots, h) -> lots.likely(h, 9, 1));
+        bounds(Checks::seven, "likely(?, 0, 1)", 0, 6, (lots, h) -> lots.likely(h, 0, 1));
     }
 
     static void promise26_xIsFrom0To9() {

@@ -47,7 +47,8 @@ public final class ModelRuns {
             // The ways of trying out are dear with seven houses: fewer calls are made then.
             boolean dear = model.state.houses.size() > 5;
             int most = Math.min(dear ? 90 + calls : 512, calls + length);
-            while (calls < most - 1) {
+            // A step makes five calls at most, an object has 512.
+            while (calls <= most - 5) {
                 if (random.nextInt(60) == 0 && calls + 130 < 512) {
                     call("wipe", lots.wipe(), model.wipe());
                     writeText();

@@ -456,8 +456,8 @@ public final class ValleyEdges extends Checks {
 
     static void promise06_housesAreSuchAsThereAre() {
         bounds(Checks::busy, "house(?, 1)", 0, 2, (lots, h) -> lots.house(h, 1));
-        bounds(() -> atNight(3), "house(?, 3)", 0, 1, (lots, h) -> lots.house(h, 3));
-        bounds(() -> laid(SEVEN + "h0,1,1;".repeat(7)), "house(?, 4)", 0, 6, (lots, h) -> lots.house(h, 4));
+        bounds(Checks::two, "house(?, 3)", 0, 1, (lots, h) -> lots.house(h, 3));
+        bounds(Checks::seven, "house(?, 4)", 0, 6, (lots, h) -> lots.house(h, 4));
     }
 
     static void promise06_whatIsFrom0To5() {
@@ -498,8 +498,8 @@ public final class ValleyEdges extends Checks {
     static void promise07_hoursAreSuchAsThereAre() {
         bounds(Checks::busy, "hour(?, 0)", 0, 2, (lots, k) -> lots.hour(k, 0));
         bounds(Checks::busy, "hour(?, 1)", 0, 2, (lots, k) -> lots.hour(k, 1));
-        bounds(() -> atNight(3), "hour(?, 0)", 0, 1, (lots, k) -> lots.hour(k, 0));
-        bounds(() -> laid(SEVEN + "h0,1,1;".repeat(7)), "hour(?, 1)", 0, 6, (lots, k) -> lots.hour(k, 1));
+        bounds(Checks::two, "hour(?, 0)", 0, 1, (lots, k) -> lots.hour(k, 0));
+        bounds(Checks::seven, "hour(?, 1)", 0, 6, (lots, k) -> lots.hour(k, 1));
     }
 
     static void promise07_whatIs0Or1() {
@@ -543,8 +543,8 @@ public final class ValleyEdges extends Checks {
     static void promise08_housesAndHoursAreSuchAsThereAre() {
         bounds(Checks::busy, "heavy(?, 0)", 0, 2, (lots, h) -> lots.heavy(h, 0));
         bounds(Checks::busy, "heavy(0, ?)", 0, 2, (lots, k) -> lots.heavy(0, k));
-        bounds(() -> atNight(3), "heavy(?, 1)", 0, 1, (lots, h) -> lots.heavy(h, 1));
-        bounds(() -> atNight(3), "heavy(1, ?)", 0, 1, (lots, k) -> lots.heavy(1, k));
+        bounds(Checks::two, "heavy(?, 1)", 0, 1, (lots, h) -> lots.heavy(h, 1));
+        bounds(Checks::two, "heavy(1, ?)", 0, 1, (lots, k) -> lots.heavy(1, k));
         bounds(() -> laid(SEVEN + "h2,1,1;".repeat(7)), "heavy(?, 6)", 0, 6, (lots, h) -> lots.heavy(h, 6));
         bounds(() -> laid(SEVEN + "h3,1,1;".repeat(7)), "heavy(6, ?)", 0, 6, (lots, k) -> lots.heavy(6, k));
     }
@@ -648,10 +648,10 @@ public final class ValleyEdges extends Checks {
     static void promise09_housesAndHoursAreSuchAsThereAre() {
         bounds(Checks::busy, "had(?, 0)", 0, 2, (lots, h) -> lots.had(h, 0));
         bounds(Checks::busy, "had(0, ?)", 0, 2, (lots, k) -> lots.had(0, k));
-        bounds(() -> atNight(3), "had(?, 1)", 0, 1, (lots, h) -> lots.had(h, 1));
-        bounds(() -> atNight(3), "had(1, ?)", 0, 1, (lots, k) -> lots.had(1, k));
-        bounds(() -> laid(SEVEN + "h0,1,1;".repeat(7)), "had(?, 6)", 0, 6, (lots, h) -> lots.had(h, 6));
-        bounds(() -> laid(SEVEN + "h0,1,1;".repeat(7)), "had(6, ?)", 0, 6, (lots, k) -> lots.had(6, k));
+        bounds(Checks::two, "had(?, 1)", 0, 1, (lots, h) -> lots.had(h, 1));
+        bounds(Checks::two, "had(1, ?)", 0, 1, (lots, k) -> lots.had(1, k));
+        bounds(Checks::seven, "had(?, 6)", 0, 6, (lots, h) -> lots.had(h, 6));
+        bounds(Checks::seven, "had(6, ?)", 0, 6, (lots, k) -> lots.had(6, k));
     }
 
     static void promise09_keptOrMissed() {

@@ -8,14 +8,6 @@ public final class WhatComesEdges extends Checks {
         runAll(WhatComesEdges.class);
     }
 
-    private static NightLots seven() {
-        return laid("n1;n2;n3;n4;n5;n6;n7;" + "h0,9,1;".repeat(7));
-    }
-
-    private static NightLots two() {
-        return atNight(3);
-    }
-
     // ---- promise 15: behind
 
     static void promise15_nightsAreFrom0To40() {
@@ -42,8 +34,8 @@ public final class WhatComesEdges extends Checks {
     static void promise15_housesAreSuchAsThereAre() {
         bounds(Checks::busy, "behind(0, ?, 0)", 0, 2, (lots, h) -> lots.behind(0, h, 0));
         bounds(Checks::busy, "behind(40, ?, 1)", 0, 2, (lots, h) -> lots.behind(40, h, 1));
-        bounds(WhatComesEdges::two, "behind(1, ?, 0)", 0, 1, (lots, h) -> lots.behind(1, h, 0));
-        bounds(WhatComesEdges::seven, "behind(1, ?, 0)", 0, 6, (lots, h) -> lots.behind(1, h, 0));
+        bounds(Checks::two, "behind(1, ?, 0)", 0, 1, (lots, h) -> lots.behind(1, h, 0));
+        bounds(Checks::seven, "behind(1, ?, 0)", 0, 6, (lots, h) -> lots.behind(1, h, 0));
     }
 
     static void promise15_whatIs0Or1() {
@@ -146,8 +138,8 @@ public final class WhatComesEdges extends Checks {
 
     static void promise17_housesAreSuchAsThereAre() {
         bounds(Checks::busy, "first(?)", 0, 2, NightLots::first);
-        bounds(WhatComesEdges::two, "first(?)", 0, 1, NightLots::first);
-        bounds(WhatComesEdges::seven, "first(?)", 0, 6, NightLots::first);
+        bounds(Checks::two, "first(?)", 0, 1, NightLots::first);
+        bounds(Checks::seven, "first(?)", 0, 6, NightLots::first);
     }
 
     static void promise17_oneIsTheNightThatComes() {
@@ -235,8 +227,8 @@ public final class WhatComesEdges extends Checks {
 
     static void promise18_aHouseIsSuchAsThereIsOrMinus1() {
         bounds(Checks::busy, "even(?)", -1, 2, NightLots::even);
-        bounds(WhatComesEdges::two, "even(?)", -1, 1, NightLots::even);
-        bounds(WhatComesEdges::seven, "even(?)", -1, 6, NightLots::even);
+        bounds(Checks::two, "even(?)", -1, 1, NightLots::even);
+        bounds(Checks::seven, "even(?)", -1, 6, NightLots::even);
     }
 
     static void promise18_noGapAndAllGaps() {
@@ -304,6 +296,21 @@ public final class WhatComesEdges extends Checks {
         due("even(1)", lots.even(1), 1);
     }
 
+    static void promise18_askedAgainItIsByHowAllStandsThen() {
+        NightLots lots = laid("n10;n5;h0,10,0;h0,5,0;");
+        due("even(-1)", lots.even(-1), 0);
+        lots.burden(1, 6);
+        due("even(-1), heavier", lots.even(-1), 1);
+        due("even(0), heavier", lots.even(0), 0);
+        lots.burden(0, 11);
+        due("even(-1), both heavier", lots.even(-1), 1);
+        due("even(0), both heavier", lots.even(0), 1);
+        due("even(1), both heavier", lots.even(1), 0);
+        lots.undo();
+        lots.undo();
+        due("even(-1), undone", lots.even(-1), 0);
+    }
+
     static void promise18_askingChangesNothing() {
         changesNothing(Checks::busy, "even(-1)", lots -> lots.even(-1));
         changesNothing(Checks::busy, "even(2)", lots -> lots.even(2));
@@ -364,6 +371,19 @@ public final class WhatComesEdges extends Checks {
         due("swaps(), one undone", lots.swaps(), 1);
     }
 
+    static void promise19_askedAgainItIsByHowAllStandsThen() {
+        NightLots lots = laid("n5;n10;h0,10,0;h0,5,0;");
+        due("swaps()", lots.swaps(), 1);
+        lots.burden(0, 6);
+        due("swaps(), heavier", lots.swaps(), NONE);
+        lots.burden(0, 5);
+        due("swaps(), lighter", lots.swaps(), 1);
+        lots.swap(0, 1);
+        due("swaps(), swapped", lots.swaps(), 0);
+        lots.pass(1);
+        due("swaps(), tired by 2", lots.swaps(), NONE);
+    }
+
     static void promise19_askingChangesNothing() {
         changesNothing(Checks::busy, "swaps()", NightLots::swaps);
         changesNothing(NightLots::new, "swaps()", NightLots::swaps);
@@ -373,8 +393,8 @@ public final class WhatComesEdges extends Checks {
 
     static void promise20_whatIs0Or1() {
         bounds(Checks::busy, "far(?)", 0, 1, NightLots::far);
-        bounds(WhatComesEdges::two, "far(?)", 0, 1, NightLots::far);
-        bounds(WhatComesEdges::seven, "far(?)", 0, 1, NightLots::far);
+        bounds(Checks::two, "far(?)", 0, 1, NightLots::far);
+        bounds(Checks::seven, "far(?)", 0, 1, NightLots::far);
     }
 
     private static void dueFar(String text, int farthest, int least) {
@@ -427,12 +447,12 @@ public final class WhatComesEdges extends Checks {
     static void promise21_nightsAreFrom1To40() {
         bounds(Checks::busy, "lamps(?, 0)", 1, 40, (lots, n) -> lots.lamps(n, 0));
         bounds(Checks::busy, "lamps(?, 1)", 1, 40, (lots, n) -> lots.lamps(n, 1));
-        bounds(WhatComesEdges::two, "lamps(?, 1)", 1, 40, (lots, n) -> lots.lamps(n, 1));
+        bounds(Checks::two, "lamps(?, 1)", 1, 40, (lots, n) -> lots.lamps(n, 1));
     }
 
     static void promise21_whatIs0Or1() {
         bounds(Checks::busy, "lamps(1, ?)", 0, 1, (lots, what) -> lots.lamps(1, what));
-        bounds(WhatComesEdges::two, "lamps(40, ?)", 0, 1, (lots, what) -> lots.lamps(40, what));
+        bounds(Checks::two, "lamps(40, ?)", 0, 1, (lots, what) -> lots.lamps(40, what));
     }
 
     static void promise21_badGoesAheadOfNone() {

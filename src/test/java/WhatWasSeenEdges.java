@@ -4,14 +4,6 @@ public final class WhatWasSeenEdges extends Checks {
         runAll(WhatWasSeenEdges.class);
     }
 
-    private static NightLots seven() {
-        return laid("n1;n2;n3;n4;n5;n6;n7;" + "h0,9,1;".repeat(7));
-    }
-
-    private static NightLots two() {
-        return atNight(3);
-    }
-
     private static NightLots withSeen(int filled) {
         NightLots lots = busy();
         lots.forget();
@@ -32,8 +24,8 @@ public final class WhatWasSeenEdges extends Checks {
 
     static void promise22_hoursAreSuchAsThereAre() {
         bounds(Checks::busy, "seen(0, ?, 1)", 0, 2, (lots, k) -> lots.seen(0, k, 1));
-        bounds(WhatWasSeenEdges::two, "seen(0, ?, 1)", 0, 1, (lots, k) -> lots.seen(0, k, 1));
-        bounds(WhatWasSeenEdges::seven, "seen(20, ?, 0)", 0, 6, (lots, k) -> lots.seen(20, k, 0));
+        bounds(Checks::two, "seen(0, ?, 1)", 0, 1, (lots, k) -> lots.seen(0, k, 1));
+        bounds(Checks::seven, "seen(20, ?, 0)", 0, 6, (lots, k) -> lots.seen(20, k, 0));
     }
 
     static void promise22_isIs0Or1() {
@@ -142,8 +134,8 @@ public final class WhatWasSeenEdges extends Checks {
 
     static void promise24_housesAreSuchAsThereAre() {
         bounds(Checks::busy, "kinds(?)", 0, 2, NightLots::kinds);
-        bounds(WhatWasSeenEdges::two, "kinds(?)", 0, 1, NightLots::kinds);
-        bounds(WhatWasSeenEdges::seven, "kinds(?)", 0, 6, NightLots::kinds);
+        bounds(Checks::two, "kinds(?)", 0, 1, NightLots::kinds);
+        bounds(Checks::seven, "kinds(?)", 0, 6, NightLots::kinds);
     }
 
     static void promise24_allIfNothingIsSeen() {
@@ -267,13 +259,13 @@ public final class WhatWasSeenEdges extends Checks {
 
     static void promise25_housesAreSuchAsThereAre() {
         bounds(Checks::busy, "strengths(?, 0)", 0, 2, (lots, h) -> lots.strengths(h, 0));
-        bounds(WhatWasSeenEdges::two, "strengths(?, 1)", 0, 1, (lots, h) -> lots.strengths(h, 1));
-        bounds(WhatWasSeenEdges::seven, "strengths(?, 1)", 0, 6, (lots, h) -> lots.strengths(h, 1));
+        bounds(Checks::two, "strengths(?, 1)", 0, 1, (lots, h) -> lots.strengths(h, 1));
+        bounds(Checks::seven, "strengths(?, 1)", 0, 6, (lots, h) -> lots.strengths(h, 1));
     }
 
     static void promise25_whatIs0Or1() {
         bounds(Checks::busy, "strengths(0, ?)", 0, 1, (lots, what) -> lots.strengths(0, what));
-        bounds(WhatWasSeenEdges::two, "strengths(1, ?)", 0, 1, (lots, what) -> lots.strengths(1, what));
+        bounds(Checks::two, "strengths(1, ?)", 0, 1, (lots, what) -> lots.strengths(1, what));
     }
 
     private static void dueStrengths(NightLots lots, int h, int howMany, int least) {
