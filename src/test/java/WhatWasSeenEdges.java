@@ -352,6 +352,21 @@ public final class WhatWasSeenEdges extends Checks {
         dueStrengths(lots, 0, 39, 0);
     }
 
+    static void promise25_byHowAllStandsWhenThatIsAsked() {
+        NightLots lots = laid("n10;n0;h0,10,0;h0,40,0;");
+        lots.seen(0, 0, 0);
+        dueStrengths(lots, 0, 31, 10);
+        dueStrengths(lots, 1, 41, 0);
+        lots.pass(1);
+        // House 1 has hour 0 now, tired by 2.
+        dueStrengths(lots, 0, 41, 0);
+        dueStrengths(lots, 1, 29, 12);
+        lots.rest(1);
+        dueStrengths(lots, 1, 31, 10);
+        lots.burden(0, 20);
+        dueStrengths(lots, 1, 21, 20);
+    }
+
     static void promise25_askingChangesNothing() {
         changesNothing(Checks::busy, "strengths(0, 0)", lots -> lots.strengths(0, 0));
         changesNothing(Checks::busy, "strengths(2, 1)", lots -> lots.strengths(2, 1));
