@@ -109,6 +109,20 @@ abstract class Checks {
         return lots;
     }
 
+    /** In night 999, house 0 having hour 1: burden 0 is missed by who is tired by 40 of strength 39. */
+    static NightLots atNight999TiredBy37() {
+        NightLots lots = laid("n0;n0;h0,39,0;h0,40,0;");
+        for (int i = 0; i < 49; i++) {
+            lots.pass(20);
+        }
+        lots.pass(19);
+        due("the night", lots.count(1), 999);
+        // Behind 20 nights it is tired by 40 and misses, keeps by 37 and by 39, misses by 40 again: 979 nights are 326 such
+        // rounds and one night.
+        due("how tired house 0 is", lots.house(0, 3), 37);
+        return lots;
+    }
+
     static NightLots two() {
         return atNight(3);
     }

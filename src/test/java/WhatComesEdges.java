@@ -199,16 +199,7 @@ public final class WhatComesEdges extends Checks {
     }
 
     static void promise17_beyondTheLastNight() {
-        NightLots lots = laid("n0;n0;h0,39,0;h0,40,0;");
-        for (int i = 0; i < 49; i++) {
-            lots.pass(20);
-        }
-        lots.pass(19);
-        due("count(1)", lots.count(1), 999);
-        // Tired by 40 behind 20 nights it misses, by 37 and by 39 it keeps, by 40 it misses again: 979 nights are 326 such rounds
-        // and one night.
-        due("house(0, 3)", lots.house(0, 3), 37);
-        due("first(0)", lots.first(0), 3);
+        due("first(0)", atNight999TiredBy37().first(0), 3);
     }
 
     static void promise17_askingChangesNothing() {
@@ -520,6 +511,17 @@ public final class WhatComesEdges extends Checks {
         refused(valley, "lamps(1, 0)", NONE, lots -> lots.lamps(1, 0));
         refused(valley, "lamps(1, 1)", NONE, lots -> lots.lamps(1, 1));
         dueLamps(laid("n10;n0;h0,10,0;h0,40,0;"), 1, 0);
+    }
+
+    static void promise21_beyondTheLastNight() {
+        // It keeps by 37 and by 39, and misses by 40; if it rests, it keeps by 32, 34, 36, 38 first.
+        NightLots lots = atNight999TiredBy37();
+        int[] bits = {0, 0, 0, 1, 1, NONE, NONE};
+        for (int n = 1; n < bits.length; n++) {
+            dueLamps(lots, n, bits[n]);
+        }
+        dueLamps(lots, 40, NONE);
+        due("count(1)", lots.count(1), 999);
     }
 
     static void promise21_theFewestHouses() {

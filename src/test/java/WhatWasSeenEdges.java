@@ -367,6 +367,19 @@ public final class WhatWasSeenEdges extends Checks {
         dueStrengths(lots, 1, 21, 20);
     }
 
+    static void promise25_beyondTheLastNight() {
+        // Tired by 37, 0 to 30 miss all three nights, 34 and 35 the first and the third, 39 the third.
+        NightLots lots = atNight999TiredBy37();
+        lots.seen(2, 1, 1);
+        due("strengths(0, 0) that miss", lots.strengths(0, 0), 34);
+        due("strengths(0, 1) that miss", lots.strengths(0, 1), 0);
+        lots.forget();
+        lots.seen(2, 1, 0);
+        due("strengths(0, 0) that keep", lots.strengths(0, 0), 7);
+        due("strengths(0, 1) that keep", lots.strengths(0, 1), 31);
+        due("count(1)", lots.count(1), 999);
+    }
+
     static void promise25_askingChangesNothing() {
         changesNothing(Checks::busy, "strengths(0, 0)", lots -> lots.strengths(0, 0));
         changesNothing(Checks::busy, "strengths(2, 1)", lots -> lots.strengths(2, 1));
